@@ -93,7 +93,6 @@ public final class MirrorPairs {
                 restart(pairs[k]);
             }
         }
-        runStore();
         return ticks;
     }
 
@@ -139,9 +138,7 @@ public final class MirrorPairs {
     }
 
     public int copy() {
-        int block = mirror.reviveNext();
-        runStore();
-        return block;
+        return mirror.reviveNext();
     }
 
     public boolean fail(int what, int k) {
@@ -173,7 +170,6 @@ public final class MirrorPairs {
             network.busUp[k] = true;
         } else {
             mirror.start(k);
-            runStore();
         }
         return true;
     }
@@ -578,7 +574,7 @@ public final class MirrorPairs {
     /** A terminal that waits for a reply has an open request: to go on is to send it. */
     private void sendAllAgain() {
         for (int t = 0; t < TERMINALS; t++) {
-            if (works(terminals[t]) && terminals[t].task == TASK_WORK) {
+            if (terminals[t].task == TASK_WORK) {
                 goOn(terminals[t]);
             }
         }
@@ -863,7 +859,6 @@ public final class MirrorPairs {
 
         void stop(int p) {
             up[p] = false;
-            declared[p] = false;
             silence[p] = 0;
             for (int k = 0; k < PROCESSORS; k++) {
                 links[p * PROCESSORS + k].clear();
@@ -897,7 +892,6 @@ public final class MirrorPairs {
         void dropBackup() {
             backup = false;
             coming = false;
-            changed = false;
         }
 
         /** Puts the whole state into a message. */
@@ -909,8 +903,10 @@ public final class MirrorPairs {
         /** The backup's state becomes the primary's. */
         abstract void takeOver();
 
-        /** The primary's processor goes down. */
-        abstract void stop();
+        /** The primary's processor goes down: what is no part of the state is gone with it. */
+        void stop() {
+            task = TASK_NOTHING;
+        }
     }
 
     /**
@@ -953,7 +949,6 @@ public final class MirrorPairs {
             asked = null;
             answer = null;
             shown = null;
-            task = TASK_NOTHING;
         }
 
         void pack(Message message) {
@@ -969,11 +964,6 @@ public final class MirrorPairs {
         void takeOver() {
             asked = keptAsked;
             answer = keptAnswer;
-            task = TASK_NOTHING;
-        }
-
-        void stop() {
-            task = TASK_NOTHING;
         }
     }
 
@@ -1012,7 +1002,6 @@ public final class MirrorPairs {
             for (int k = 0; k < standing; k++) {
                 row[k] = row[k + 1];
             }
-            row[standing] = null;
             return first;
         }
 
@@ -1029,11 +1018,10 @@ public final class MirrorPairs {
         /** The kept state need not be doubled: a new backup gets a state of its own. */
         void takeOver() {
             state = kept;
-            stop();
         }
 
         void stop() {
-            task = TASK_NOTHING;
+            super.stop();
             standing = 0;
             announces = false;
         }
@@ -1344,7 +1332,6 @@ public final class MirrorPairs {
 
         void stop(int d) {
             up[d] = false;
-            nextBlock[d] = 0;
             if (isUsable(1 - d)) {
                 current[d] = false;
             }
@@ -1408,7 +1395,6 @@ public final class MirrorPairs {
                     put(d, block, words[1 - d], block * BLOCK_WORDS);
                     nextBlock[d]++;
                     if (nextBlock[d] >= BLOCKS) {
-                        nextBlock[d] = 0;
                         current[d] = true;
                         written[d] = written[1 - d];
                     }

@@ -40,6 +40,14 @@ public final class PromiseTest {
         storeRestarts();
         storeTakesOver();
         row();
+        sameTick();
+        olderBackup();
+        copyOfTheStore();
+        rowIsGone();
+        linksAnew();
+        staleTrail();
+        laterRestart();
+        fullTrailRestart();
         Checks.end("PromiseTest");
     }
 
@@ -951,5 +959,206 @@ public final class PromiseTest {
         due("sent again", y.link(2, 0, 0), 1);
         Checks.carry(y);
         due("it stands there once", y.pair(0, 6), 1);
+    }
+
+    /** Processor 0 is declared before processor 2 is: the store's reply still goes to 2, and is gone. */
+    private static void sameTick() {
+        MirrorPairs x = new MirrorPairs();
+        x.request(0, BEGIN, 0, 0);
+        x.arrive(2, 3, false);
+        x.arrive(3, 2, false);
+        x.arrive(2, 0, false);
+        x.arrive(0, 1, false);
+        x.fail(0, 0);
+        x.fail(0, 2);
+        Checks.ticks(x, 5);
+        due("same tick: the store", x.pair(0, 0), 1);
+        due("same tick: the terminal", x.pair(1, 0), 3);
+        due("same tick: the reply is gone", x.link(1, 3, 0), 0);
+        due("same tick: the request is sent again", x.link(3, 1, 0), 1);
+        MirrorPairs y = new MirrorPairs();
+        y.request(0, BEGIN, 0, 0);
+        due("on bus 0", y.link(2, 3, 2), 0);
+        y.tick();
+        due("a tick leaves it on its bus", y.link(2, 3, 2), 0);
+    }
+
+    private static void olderBackup() {
+        MirrorPairs x = new MirrorPairs();
+        Checks.ask(x, 0, BEGIN, 0, 0);
+        x.request(0, WRITE, 6, 60);
+        x.arrive(2, 3, false);
+        x.arrive(3, 2, false);
+        x.arrive(2, 0, false);
+        due("older: the primary has it", x.record(6, 0), 60);
+        x.fail(0, 0);
+        Checks.ticks(x, 5);
+        due("older: the backup has it not", x.record(6, 0), 0);
+        due("older: nor the lock", x.record(6, 1), NONE);
+        due("older: it replies to the one before", x.link(1, 2, 0), 1);
+        Checks.settle(x);
+        due("older: done after all", x.disc(0, 6, 0), 60);
+        due("older: shown", x.answer(0, 0), 2);
+        x.request(0, READ, 6, 0);
+        due("older: the third", x.pair(1, 6), 3);
+        x.fail(0, 2);
+        Checks.ticks(x, 5);
+        due("older: the backup knows of two", x.pair(1, 6), 2);
+        due("older: none is open", x.pair(1, 7), 0);
+        due("older: the third again", x.request(0, READ, 6, 0), 3);
+        MirrorPairs y = new MirrorPairs();
+        Checks.ask(y, 0, BEGIN, 0, 0);
+        y.request(0, READ, 0, 0);
+        int[] way = {2, 3, 2, 0, 1, 0, 2};
+        for (int k = 0; k + 1 < way.length; k++) {
+            y.arrive(way[k], way[k + 1], false);
+        }
+        due("older: the answer has come", y.pair(1, 7), 0);
+        y.fail(0, 2);
+        Checks.ticks(y, 5);
+        due("older: the backup knows no answer", y.pair(1, 7), 1);
+        due("older: shown is the first one", y.answer(0, 0), 1);
+        due("older: sent again", y.link(3, 0, 0), 1);
+        Checks.settle(y);
+        due("older: shown is the second one", y.answer(0, 0), 2);
+    }
+
+    /** A store that waited goes on before it sends a copy, so the copy is of one that does nothing. */
+    private static void copyOfTheStore() {
+        MirrorPairs x = new MirrorPairs();
+        x.request(0, BEGIN, 0, 0);
+        x.arrive(2, 3, false);
+        x.arrive(3, 2, false);
+        x.fail(0, 1);
+        x.arrive(2, 0, false);
+        due("copy: it waits", x.pair(0, 3), 1);
+        due("copy: told all the same", x.pair(0, 4), 1);
+        x.repair(0, 1);
+        due("copy: it went on", x.link(0, 2, 0), 1);
+        due("copy: told", x.pair(0, 4), 2);
+        Checks.carry(x);
+        due("copy: backup", x.pair(0, 1), 1);
+        x.fail(0, 0);
+        Checks.ticks(x, 5);
+        due("copy: nothing is being done", x.link(1, 2, 0), 0);
+        due("copy: the transaction is there", x.pair(0, 10), 1);
+        x.repair(0, 0);
+        due("copy: coming", x.pair(0, 2), 1);
+        Checks.ask(x, 1, BEGIN, 0, 0);
+        due("copy: a new one was sent", x.pair(0, 4), 4);
+        due("copy: backup again", x.pair(0, 1), 0);
+        x.fail(0, 1);
+        Checks.ticks(x, 5);
+        due("copy: of the later state", x.pair(0, 10), 2);
+        x = writing(3, 30);
+        Checks.settle(x);
+        x.fail(0, 1);
+        x.repair(0, 1);
+        Checks.carry(x);
+        x.fail(0, 0);
+        x.repair(0, 0);
+        due("copy: taken over", x.pair(0, 0), 1);
+        due("copy: with no writes to do anew", x.pair(0, 3), 0);
+    }
+
+    private static void rowIsGone() {
+        MirrorPairs x = writing(3, 30);
+        x.request(1, BEGIN, 0, 0);
+        Checks.carry(x);
+        due("row: one", x.pair(0, 6), 1);
+        x.fail(0, 0);
+        x.repair(0, 0);
+        due("row: gone", x.pair(0, 6), 0);
+        due("row: sent again", x.link(3, 1, 0), 1);
+    }
+
+    private static void linksAnew() {
+        MirrorPairs x = new MirrorPairs();
+        Checks.ask(x, 0, BEGIN, 0, 0);
+        due("links: nothing to lose", x.lose(2, 3), false);
+        x.request(0, READ, 0, 0);
+        due("links: number", x.link(2, 3, 3), 3);
+        x.fail(0, 3);
+        due("links: nothing to lose", x.lose(2, 3), false);
+        due("links: nothing arrives", x.arrive(2, 3, false), 0);
+        x.repair(0, 3);
+        due("links: numbers from 1 on", x.link(2, 3, 3), 1);
+        due("links: two copies", x.link(2, 3, 0), 2);
+        x.lose(2, 3);
+        x.tick();
+        due("links: on bus 1", x.link(2, 3, 2), 1);
+        x.arrive(2, 3, false);
+        due("links: the next one is on bus 0", x.link(2, 3, 2), 0);
+    }
+
+    /** Entries of an earlier generation count no more. */
+    private static void staleTrail() {
+        MirrorPairs x = new MirrorPairs();
+        Checks.ask(x, 0, BEGIN, 0, 0);
+        Checks.ask(x, 0, WRITE, 1, 10);
+        Checks.ask(x, 0, COMMIT, 0, 0);
+        Checks.ask(x, 0, BEGIN, 0, 0);
+        Checks.ask(x, 0, ABORT, 0, 0);
+        due("stale: nothing was written", x.record(1, 0), 10);
+        due("stale: generation", x.pair(0, 8), 3);
+        Checks.ask(x, 0, BEGIN, 0, 0);
+        Checks.ask(x, 0, WRITE, 2, 20);
+        Checks.ask(x, 0, ABORT, 0, 0);
+        due("stale: backed out", x.record(2, 0), 0);
+        due("stale: committed", x.record(1, 0), 10);
+    }
+
+    private static void laterRestart() {
+        MirrorPairs x = new MirrorPairs();
+        for (int k = 0; k < 3; k++) {
+            Checks.ask(x, 0, BEGIN, 0, 0);
+            Checks.ask(x, 0, COMMIT, 0, 0);
+        }
+        Checks.ask(x, 0, BEGIN, 0, 0);
+        Checks.ask(x, 1, BEGIN, 0, 0);
+        Checks.ask(x, 1, WRITE, 8, 80);
+        Checks.ask(x, 0, WRITE, 7, 70);
+        Checks.bounce(x, 0);
+        x.tick();
+        due("later: epoch", x.pair(0, 7), 2);
+        due("later: generation", x.pair(0, 8), 5);
+        due("later: transactions", x.pair(0, 10), 0);
+        due("later: the trail", x.pair(0, 9), 0);
+        int[] blocks = {7, 19, 8, 20, 16, NONE};
+        for (int block : blocks) {
+            due("later: terminal 0, then 1, the head once", x.write(0), block);
+        }
+        due("later: of terminal 0", x.disc(0, 19, 2), 0);
+        due("later: with the old generation", x.disc(0, 20, 0), 4);
+        for (int block = 0; block < 49; block++) {
+            x.copy();
+        }
+        due("later: both are current", x.part(21, 1), 1);
+        Checks.bounce(x, 0);
+        x.tick();
+        due("later: epoch", x.pair(0, 7), 3);
+        due("later: revived anew", x.part(22, 1), 0);
+        Checks.bounce(x, 0);
+        x.copy();
+        x.tick();
+        due("later: the epoch was not written", x.pair(0, 7), 3);
+        due("later: the reviving goes on", x.part(22, 1), 1);
+    }
+
+    private static void fullTrailRestart() {
+        MirrorPairs x = new MirrorPairs();
+        Checks.ask(x, 0, BEGIN, 0, 0);
+        for (int k = 0; k < 31; k++) {
+            Checks.ask(x, 0, WRITE, 0, k + 1);
+        }
+        x.request(0, COMMIT, 0, 0);
+        Checks.carry(x);
+        due("full: the last block", x.write(0), 48);
+        Checks.bounce(x, 0);
+        x.tick();
+        due("full: committed", x.record(0, 0), 31);
+        due("full: the head alone", x.pair(0, 5), 1);
+        due("full: head", x.write(0), 16);
+        due("full: generation", x.disc(0, 16, 0), 2);
     }
 }

