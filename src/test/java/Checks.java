@@ -3,15 +3,38 @@ final class Checks {
     static final int NO = Integer.MIN_VALUE;
     private static int asked;
     private static int wrong;
+    private static int sentences;
+    private static int askedBefore;
+    /** The sentence of the document that a test is about; empty in tests that are about several. */
+    private static String about = "";
 
     private Checks() {
+    }
+
+    /** Begins the test of one sentence, which must stand in the document at that place. */
+    static void sentence(String where, String words) {
+        endSentence();
+        sentences++;
+        askedBefore = asked;
+        about = where + ", \"" + words + "\": ";
+        if (!Document.says(where, words)) {
+            wrong++;
+            System.out.println(about + "the document does not say so there");
+        }
+    }
+
+    private static void endSentence() {
+        if (sentences > 0 && asked == askedBefore) {
+            wrong++;
+            System.out.println(about + "nothing is tested");
+        }
     }
 
     static void due(String what, long got, long want) {
         asked++;
         if (got != want) {
             wrong++;
-            System.out.println(what + " answered " + got + ", due is " + want);
+            System.out.println(about + what + " answered " + got + ", due is " + want);
         }
     }
 
@@ -20,7 +43,9 @@ final class Checks {
     }
 
     static void end(String name) {
-        System.out.println(name + ": " + asked + " answers, " + wrong + " wrong");
+        endSentence();
+        String of = sentences == 0 ? "" : sentences + " sentences, ";
+        System.out.println(name + ": " + of + asked + " answers, " + wrong + " wrong");
         System.exit(wrong == 0 ? 0 : 1);
     }
 
