@@ -48,6 +48,7 @@ public final class PromiseTest {
         staleTrail();
         laterRestart();
         fullTrailRestart();
+        questionsChangeNothing();
         Checks.end("PromiseTest");
     }
 
@@ -306,19 +307,11 @@ public final class PromiseTest {
         due("5 arrives", x.arrive(2, 3, false), 1);
     }
 
-    private static MirrorPairs writing(int record, int value) {
-        MirrorPairs x = new MirrorPairs();
-        Checks.ask(x, 0, BEGIN, 0, 0);
-        x.request(0, WRITE, record, value);
-        Checks.carry(x);
-        return x;
-    }
-
     private static void promise6() {
         MirrorPairs x = new MirrorPairs();
         due("6 nothing to write", x.write(0), NONE);
         due("6 no such disc", x.write(2), NONE);
-        x = writing(4, 44);
+        x = Scenes.writing(4, 44);
         due("6 no such disc", x.write(-1), NONE);
         due("6 no such disc", x.write(2), NONE);
         due("6 writes", x.pair(0, 3), 2);
@@ -335,7 +328,7 @@ public final class PromiseTest {
         due("6 done", x.pair(0, 3), 0);
         due("6 replied", x.link(0, 2, 0), 1);
         due("6 written", x.disc(1, 4, 0), 44);
-        x = writing(4, 44);
+        x = Scenes.writing(4, 44);
         x.fail(2, 1);
         due("6 down", x.write(1), NONE);
         x.repair(2, 1);
@@ -344,20 +337,20 @@ public final class PromiseTest {
         due("6 not done", x.pair(0, 3), 2);
         x.write(0);
         due("6 done by the current one alone", x.pair(0, 3), 0);
-        x = writing(4, 44);
+        x = Scenes.writing(4, 44);
         x.fail(0, 0);
         due("6 the store does not write", x.write(0), NONE);
     }
 
     private static void promise6Order() {
-        MirrorPairs x = writing(4, 44);
+        MirrorPairs x = Scenes.writing(4, 44);
         x.write(0);
         x.write(0);
         x.write(1);
         x.fail(2, 1);
         due("6 done when the slow disc goes", x.pair(0, 3), 0);
         due("6 replied", x.link(0, 2, 0), 1);
-        x = writing(4, 44);
+        x = Scenes.writing(4, 44);
         x.fail(2, 1);
         x.write(0);
         x.fail(2, 0);
@@ -713,7 +706,7 @@ public final class PromiseTest {
     }
 
     private static void promise14() {
-        MirrorPairs x = writing(9, 99);
+        MirrorPairs x = Scenes.writing(9, 99);
         Checks.settle(x);
         for (int d = 0; d < 2; d++) {
             due("14 record", x.disc(d, 9, 0), 99);
@@ -736,7 +729,7 @@ public final class PromiseTest {
     }
 
     private static void promise15() {
-        MirrorPairs x = writing(9, 99);
+        MirrorPairs x = Scenes.writing(9, 99);
         due("15 int", x.record(9, 0), 99);
         due("15 lock", x.record(9, 1), 0);
         due("15 no lock", x.record(8, 1), NONE);
@@ -905,7 +898,7 @@ public final class PromiseTest {
     }
 
     private static void storeTakesOver() {
-        MirrorPairs x = writing(3, 30);
+        MirrorPairs x = Scenes.writing(3, 30);
         x.write(0);
         x.write(0);
         x.fail(0, 0);
@@ -936,7 +929,7 @@ public final class PromiseTest {
     }
 
     private static void row() {
-        MirrorPairs x = writing(3, 30);
+        MirrorPairs x = Scenes.writing(3, 30);
         int[] want = {2, 4, 6, 8, 8};
         for (int standing : want) {
             Checks.bounce(x, 2);
@@ -950,7 +943,7 @@ public final class PromiseTest {
         due("all are done", x.pair(0, 6), 0);
         due("the fifth ones were dropped", x.pair(1, 7), 1);
         due("it does nothing", x.pair(0, 3), 0);
-        MirrorPairs y = writing(3, 30);
+        MirrorPairs y = Scenes.writing(3, 30);
         y.request(1, BEGIN, 0, 0);
         Checks.carry(y);
         due("it stands there", y.pair(0, 6), 1);
@@ -1050,7 +1043,7 @@ public final class PromiseTest {
         x.fail(0, 1);
         Checks.ticks(x, 5);
         due("copy: of the later state", x.pair(0, 10), 2);
-        x = writing(3, 30);
+        x = Scenes.writing(3, 30);
         Checks.settle(x);
         x.fail(0, 1);
         x.repair(0, 1);
@@ -1062,7 +1055,7 @@ public final class PromiseTest {
     }
 
     private static void rowIsGone() {
-        MirrorPairs x = writing(3, 30);
+        MirrorPairs x = Scenes.writing(3, 30);
         x.request(1, BEGIN, 0, 0);
         Checks.carry(x);
         due("row: one", x.pair(0, 6), 1);
@@ -1160,5 +1153,11 @@ public final class PromiseTest {
         due("full: the head alone", x.pair(0, 5), 1);
         due("full: head", x.write(0), 16);
         due("full: generation", x.disc(0, 16, 0), 2);
+    }
+
+    private static void questionsChangeNothing() {
+        MirrorPairs x = Scenes.writing(15, 44);
+        java.util.List<Integer> before = Scenes.look(x);
+        due("questions change nothing", Scenes.look(x).equals(before), true);
     }
 }

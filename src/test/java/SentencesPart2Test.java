@@ -11,6 +11,7 @@ public final class SentencesPart2Test {
     private static final int SECOND = 2;
 
     public static void main(String[] args) {
+        whereAPairIs();
         homesAtFirst();
         latestTold();
         numbersTold();
@@ -58,6 +59,19 @@ public final class SentencesPart2Test {
         due(what + ": primary", x.pair(k, 0), primary);
         due(what + ": backup", x.pair(k, 1), backup);
         due(what + ": coming", x.pair(k, 2), coming);
+    }
+
+    private static void whereAPairIs() {
+        sentence("A pair has a PRIMARY on one home, or is LOST; a BACKUP on the other one, or it is COMING, or there is none.");
+        MirrorPairs x = new MirrorPairs();
+        duePair(x, "a backup", SECOND, 3, 2, 0);
+        Scenes.flick(x, 3);
+        duePair(x, "it is coming", SECOND, 2, NONE, 1);
+        Scenes.end(x, 3);
+        duePair(x, "there is none", SECOND, 2, NONE, 0);
+        x.fail(0, 2);
+        Checks.ticks(x, 5);
+        duePair(x, "lost", SECOND, NONE, NONE, 0);
     }
 
     private static void homesAtFirst() {

@@ -480,13 +480,14 @@ public final class SentencesPart5Test {
         Scenes.askBare(x, 0, WRITE, 0, 5);
         Scenes.askBare(x, 0, COMMIT, 0, 0);
         Scenes.askBare(x, 0, BEGIN, 0, 0);
-        bring(x, WRITE, 0, 7);
+        bring(x, WRITE, 1, 7);
         x.write(0);
         restartBare(x);
         due("the last record there", x.record(15, 0), 2);
-        due("the first record there, not what did not get there", x.record(0, 0), 5);
+        due("the first record there", x.record(0, 0), 5);
+        due("not what did not get there", x.record(1, 0), 0);
         due("the generation there, and 1 more", x.pair(STORE, 8), 3);
-        dueWrites(x, 0, 0, 18, 16);
+        dueWrites(x, 0, 1, 18, 16);
     }
 
     private static void restartEpoch() {

@@ -34,7 +34,6 @@ public final class SentencesPromisesTest {
         link();
         disc();
         record();
-        questionsChangeNothing();
         Checks.end("SentencesPromisesTest");
     }
 
@@ -675,12 +674,5 @@ public final class SentencesPromisesTest {
         Scenes.flick(x, 1);
         due("lost", x.record(15, 0), NO);
         due("lost", x.record(15, 1), NO);
-    }
-
-    private static void questionsChangeNothing() {
-        Checks.sentence("Not promised", "Nothing is promised beyond the answers and state changes described above");
-        MirrorPairs x = Scenes.writing(15, 44);
-        List<Integer> before = Scenes.look(x);
-        dueSame("questions", x, before);
     }
 }
